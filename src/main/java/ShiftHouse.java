@@ -404,6 +404,10 @@ public final class ShiftHouse {
         private static final int NINE = 57;
         private static final int MAX_DIGITS = 18;
         private static final long HIGHEST_POWER = 1_000_000_000_000_000_000L;
+        private static final long LEAST_SHORT = -32768L;
+        private static final long GREATEST_SHORT = 32767L;
+        private static final long LEAST_INT = -2147483648L;
+        private static final long GREATEST_INT = 2147483647L;
 
         // Of each value the number (of a TEXT: how many letters), then three words of eight letters each.
         final long[] words = new long[MAX_COLUMNS * WORDS];
@@ -445,12 +449,13 @@ public final class ShiftHouse {
         }
 
         void appendLetter(int i, int letter) {
-            int size = (int) numberAt(i);
+            int at = i * WORDS;
+            int size = (int) words[at];
             if (size < 0 || size >= MAX_LETTERS) {
                 return;
             }
-            words[i * WORDS + 1 + size / LETTERS_A_WORD] |= (long) letter << (8 * (size % LETTERS_A_WORD));
-            words[i * WORDS] = size + 1;
+            words[at + 1 + size / LETTERS_A_WORD] |= (long) letter << (8 * (size % LETTERS_A_WORD));
+            words[at] = size + 1;
         }
 
         void appendLetters(int i, long told) {
@@ -490,10 +495,10 @@ public final class ShiftHouse {
                     setNumber(i, number == 0 ? 0 : 1);
                     break;
                 case SHORT:
-                    setNumber(i, Math.max(Short.MIN_VALUE, Math.min(Short.MAX_VALUE, number)));
+                    setNumber(i, Math.max(LEAST_SHORT, Math.min(GREATEST_SHORT, number)));
                     break;
                 case INT:
-                    setNumber(i, Math.max(Integer.MIN_VALUE, Math.min(Integer.MAX_VALUE, number)));
+                    setNumber(i, Math.max(LEAST_INT, Math.min(GREATEST_INT, number)));
                     break;
                 case LONG:
                     setNumber(i, number);
@@ -777,7 +782,6 @@ public final class ShiftHouse {
         void startUnder(int newKey) {
             key = newKey;
             lag = UP_TO_DATE;
-            wasBehind = false;
             prior.clearAll();
         }
 
@@ -899,7 +903,7 @@ public final class ShiftHouse {
                 isDown = true;
                 return false;
             }
-            if (crashAt > 1) {
+            if (crashAt > 0) {
                 crashAt--;
             }
             done++;

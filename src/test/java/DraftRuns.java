@@ -58,6 +58,12 @@ public final class DraftRuns {
         x.write(1, false);
         x.read(1, false);
         Due.isText("24 letters", x, 0, "ABCDEFGHIJKLMNOPQRSTUVWX");
+        for (int i = 1; i <= 3; i++) {
+            Due.is("letters of the least and greatest numbers", x.letters(1, 0x01FF0180, 0xFF018001), 8 * i);
+        }
+        Due.is("one of 1 more", x.letters(1, 0, 1), -4);
+        Due.is("one of 128 more", x.letters(1, 0x80000000, 0), -4);
+        Due.is("24 still", x.letters(1, 0, 0), 24);
     }
 
     private static void draftTakesLettersAway() {

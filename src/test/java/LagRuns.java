@@ -120,10 +120,10 @@ public final class LagRuns {
         x.write(3, false);
         x.remove(1);
         Due.is("remove of a row that is BEHIND: ACTIONS", x.count(9), 1);
-        x.remove(2);
-        Due.is("remove of a SHADOWED row: ACTIONS", x.count(9), 2);
         x.remove(3);
         Due.is("remove of another: ACTIONS", x.count(9), 1);
+        x.remove(2);
+        Due.is("remove of a SHADOWED row: ACTIONS", x.count(9), 2);
         x.write(2, false);
         lags("a row written where a SHADOWED one was", x, 0, 0);
         x.remove(2);

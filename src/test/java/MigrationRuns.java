@@ -15,6 +15,7 @@ public final class MigrationRuns {
         finishKeepsNewForms();
         rollbackKeepsPriorForms();
         removedWhileRunning();
+        allEightColumnsAndFortyRows();
         Due.end();
     }
 
@@ -311,6 +312,13 @@ public final class MigrationRuns {
             Due.is("row " + row[0] + ", value 1", x.value(1), row[2]);
         }
         Due.is("the next schema is gone", x.read(1, true), -2);
+        x.backfill();
+        x.plan(Houses.RETYPE, 0, Houses.FLAG, 0, 0);
+        x.begin();
+        x.read(2, true);
+        Due.is("the next migration's NEW form", x.value(0), 1);
+        x.read(2, false);
+        Due.is("its PRIOR form", x.value(0), 20);
     }
 
     private static void rollbackKeepsPriorForms() {
@@ -335,6 +343,35 @@ public final class MigrationRuns {
         Due.is("another one begins", x.begin(), 2);
         Due.is("with its own column", x.column(1, true), 8 * 8);
         Due.is("and finishes", x.finish(), 2);
+    }
+
+    private static void allEightColumnsAndFortyRows() {
+        ShiftHouse x = Houses.withColumns(2, 2, 2, 2, 2, 2, 2, 2);
+        for (int key = 0; key < 40; key++) {
+            x.draft(0, 0, key);
+            x.draft(7, 0, -key);
+            x.write(key, false);
+        }
+        x.plan(Houses.RETYPE, 7, Houses.LONG, 0, 0);
+        Due.is("begin", x.begin(), 8);
+        Due.is("forty rows LAG", x.count(5), 40);
+        Due.is("rollback", x.rollback(), 2);
+        x.plan(Houses.RETYPE, 7, Houses.LONG, 0, 0);
+        x.begin();
+        x.draft(7, 1, 0);
+        Due.is("write in THE NEXT SCHEMA", x.write(39, true), 1);
+        x.read(39, false);
+        Due.is("its last value DOWN", x.value(7), Integer.MAX_VALUE);
+        Due.is("finish", x.finish(), 3);
+        for (int key = 0; key < 39; key++) {
+            x.read(key, false);
+            Due.is("row " + key, x.value(0), key);
+            Due.is("its last value", x.value(7), -key);
+        }
+        for (int i = 0; i < 10; i++) {
+            Due.is("backfill " + i, x.backfill(), 4);
+        }
+        Due.is("all are filled in", x.backfill(), 0);
     }
 
     private static void removedWhileRunning() {

@@ -8,6 +8,7 @@ public final class RowRuns {
         edgesOfKeys();
         seenStays();
         seenKeepsItsTypes();
+        edgesOfSeen();
         refusedReads();
         whenDown();
         Due.end();
@@ -148,6 +149,32 @@ public final class RowRuns {
         x.read(1, false);
         Due.is("behind finish a number", x.value(0), 17);
         Due.is("that has no characters", x.letter(0, 0), 0);
+    }
+
+    private static void edgesOfSeen() {
+        ShiftHouse x = Houses.withColumns(4, 3, 3, 3, 3, 3, 4, 4);
+        String text = "abcdefghijklmnopqrstuvwx";
+        Houses.lettersOf(x, 0, text);
+        x.draft(1, -1, -1);
+        Houses.lettersOf(x, 6, text);
+        Houses.lettersOf(x, 7, text);
+        x.write(1, false);
+        x.read(1, false);
+        Due.is("eight values", x.seen(), 8);
+        Due.isText("24 characters ahead of a number", x, 0, text);
+        Due.isText("24 characters ahead of others", x, 6, text);
+        Due.isText("24 characters at the end", x, 7, text);
+        Due.is("value 8", x.value(8), 0);
+        Due.is("its letter", x.letter(8, 0), 0);
+        x.plan(Houses.DROP, 7, 0, 0, 0);
+        x.plan(Houses.DROP, 1, 0, 0, 0);
+        x.begin();
+        x.read(1, true);
+        Due.is("six values", x.seen(), 6);
+        for (int i = 6; i < 9; i++) {
+            Due.is("value " + i + " of six", x.value(i), 0);
+            Due.is("its letter", x.letter(i, 0), 0);
+        }
     }
 
     private static void refusedReads() {

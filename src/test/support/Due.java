@@ -2,12 +2,18 @@
 final class Due {
     private static int wrong = 0;
     private static int asked = 0;
+    private static String under = "";
+
+    /** The words of the document that the answers from now on stand for. */
+    static void under(String words) {
+        under = words.isEmpty() ? "" : "[" + words + "] ";
+    }
 
     static void is(String call, long got, long want) {
         asked++;
         if (got != want) {
             wrong++;
-            System.out.println(call + " answered " + got + ", due is " + want);
+            System.out.println(under + call + " answered " + got + ", due is " + want);
         }
     }
 
@@ -23,6 +29,19 @@ final class Due {
         }
         is(call + ": behind its end", x.letter(i, want.length()), 0);
         is(call + ": ahead of its start", x.letter(i, -1), 0);
+    }
+
+    /** The row under a key is there, in THE SCHEMA or the next one, with just these numbers. */
+    static void isRow(String call, ShiftHouse x, int key, boolean next, long... want) {
+        is(call + ": read of " + key, x.read(key, next), 1);
+        is(call + ": values of " + key, x.seen(), want.length);
+        for (int i = 0; i < want.length; i++) {
+            is(call + ": value " + i + " of " + key, x.value(i), want[i]);
+        }
+    }
+
+    static int asked() {
+        return asked;
     }
 
     static boolean isAnyWrong() {

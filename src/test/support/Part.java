@@ -40,11 +40,38 @@ final class Part {
         return new Part(start >= 0 && end > start ? DOCUMENT.substring(start, end) : "");
     }
 
+    /** From some words to the document's end. */
+    static Part from(String words) {
+        int start = DOCUMENT.indexOf(words);
+        Due.is("the document has a part from '" + words + "'", DOCUMENT.isEmpty() || start >= 0, true);
+        return new Part(start >= 0 ? DOCUMENT.substring(start) : "");
+    }
+
+    /** Behind a promise's heading stands the call that it is about. */
     static Part promise(int number) {
         String to = number == 22 ? "## Not promised" : "## Promise " + (number + 1) + ":";
         Part part = between("## Promise " + number + ":", to);
-        part.skip(part.text.substring(0, part.text.indexOf("`:") + 1));
+        int start = part.text.indexOf('`') + 1;
+        int end = part.text.indexOf("`:");
+        if (start > 0 && end > start) {
+            String call = part.text.substring(start, end);
+            Due.is("the class has the call " + call, Face.has(call), true);
+            part.skip(part.text.substring(0, end));
+        }
         return part;
+    }
+
+    /** How many headings of the document begin with these words. */
+    static int headings(String words) {
+        int found = 0;
+        for (int at = DOCUMENT.indexOf(words); at >= 0; at = DOCUMENT.indexOf(words, at + 1)) {
+            found++;
+        }
+        return found;
+    }
+
+    static boolean isThereADocument() {
+        return !DOCUMENT.isEmpty();
     }
 
     /** These words promise nothing that a test could look at. */
